@@ -197,6 +197,8 @@ public final class Promises {
         fault("gk1 1 1;", 0);
         fault("g;", 1);
         fault("gx", 0);
+        fault("ga", 0);
+        fault("gz", 0);
         fault("g x", 2);
         fault("g0 1 1;", 1);
         fault("g7 1 1;", 1);
@@ -350,6 +352,20 @@ public final class Promises {
         }
         due("now(0)", coins.now(0), 3);
         due("count(5)", coins.count(5), 3);
+        letsOfAll();
+    }
+
+    /** So many calls are beyond an object's 512, but the rule is the document's. */
+    private static void letsOfAll() {
+        SlopeCoins coins = cityOf("g2 1 10;o1 0 1;c1 99 0;c2 99 0;");
+        for (int many = 0; many < 999; many++) {
+            due("lets(" + many % 2 + ", 0, 0)", coins.lets(many % 2, 0, 0), many % 2 == 0 ? 110 : 10);
+        }
+        due("lets(0, 0, 0), the thousandth", coins.lets(0, 0, 0), STATE);
+        due("lets(2, 0, 0), the thousandth", coins.lets(2, 0, 0), BAD);
+        due("now(0)", coins.now(0), 999);
+        coins.sweep(1, 0);
+        due("lets(1, 0, 0)", coins.lets(1, 0, 0), 10);
     }
 
     private static void sets() {
@@ -494,19 +510,35 @@ public final class Promises {
     }
 
     private static void undoOfMany() {
-        SlopeCoins coins = cityOf("g1 1 0;c1 5 0;");
-        coins.lets(0, 0, 0);
+        SlopeCoins coins = cityOf("g2 1 03;o1 0 1;k0 0 1;c1 5 0;c2 7 0;");
+        for (int lost = 0; lost < 7; lost++) {
+            coins.lets(1, 1, 0);
+        }
+        // ten more, no two alike that stand beside one another
         coins.cobble(0, 0, 1);
-        for (int more = 0; more < 9; more++) {
-            coins.lets(0, 0, 0);
-        }
+        coins.lets(0, 1, 0);
+        coins.cobble(1, 0, 0);
+        coins.lets(1, 0, 0);
+        coins.sweep(0, 0);
+        coins.lets(0, 0, 0);
+        coins.sweep(1, 0);
+        coins.cobble(0, 0, 1);
+        coins.lets(1, 1, 0);
+        coins.cobble(1, 0, 0);
         due("count(5), ten are known", coins.count(5), 10);
-        for (int left = 9; left >= 0; left--) {
-            due("undo()", coins.undo(), left);
+        // for each deed undone: what lies at 0 0, its height, what lies at 1 0, its height, what is in there
+        int[][] wanted = {{5, 2, 7, 2, 1}, {5, 2, 0, 2, 1}, {5, 1, 0, 2, 1}, {5, 1, 49, 2, 1}, {0, 1, 49, 2, 1},
+            {7, 1, 49, 2, 1}, {0, 1, 49, 2, 1}, {0, 1, 49, 3, 1}, {0, 1, 49, 3, 0}, {0, 0, 49, 3, 0}};
+        for (int done = 0; done < 10; done++) {
+            due("undo()", coins.undo(), 9 - done);
+            due("cell(0, 0, 3), undone " + done, coins.cell(0, 0, 3), wanted[done][0]);
+            due("cell(0, 0, 0), undone " + done, coins.cell(0, 0, 0), wanted[done][1]);
+            due("cell(1, 0, 3), undone " + done, coins.cell(1, 0, 3), wanted[done][2]);
+            due("cell(1, 0, 0), undone " + done, coins.cell(1, 0, 0), wanted[done][3]);
+            due("cell(1, 0, 4), undone " + done, coins.cell(1, 0, 4), wanted[done][4]);
         }
-        due("cell(0, 0, 0)", coins.cell(0, 0, 0), 0);
-        due("cell(0, 0, 2), the eleventh is lost", coins.cell(0, 0, 2), 1);
-        due("undo()", coins.undo(), STATE);
+        due("undo(), older ones are lost", coins.undo(), STATE);
+        due("cell(1, 0, 2), older ones are lost", coins.cell(1, 0, 2), 7);
     }
 
     private static void now() {
@@ -589,6 +621,8 @@ public final class Promises {
         due("end(0, 4, 0, 1), nine steps", longest.end(0, 4, 0, 1), 9);
         due("end(0, 4, 0, 2), every cell", longest.end(0, 4, 0, 2), 1023);
         due("end(0, 4, 0, 0)", longest.end(0, 4, 0, 0), 41);
+        longest = cityOf("g5 2 56789 43210;k4 0 2;k3 0 2;k2 0 2;k1 0 2;o4 1 1;c1 1 0;");
+        due("end(0, 4, 0, 0), in after nine steps", longest.end(0, 4, 0, 0), 141);
     }
 
     private static void doors() {
@@ -635,7 +669,24 @@ public final class Promises {
         planksAre(peak, 11, 21, 1, 101, -5);
         planksAre(peak, 11, 12, 2, 101, 110);
         planksAre(peak, 11, 1, NONE, NONE, NONE);
-        // of 1 0 south, 1 1 east the order is by bits, not by pairs
+        SlopeCoins slope = cityOf("g6 5 987554 876533 755332 644310 533100;c1 1 0;");
+        // 0 and 121 or 100 and 121 lead to 1 2, 100 and 111 or 200 and 211 to 4 1
+        planksAre(slope, 0, 12, 2, 0, 121);
+        planksAre(slope, 0, 41, 2, 100, 111);
+        slope = cityOf("g6 5 013446 124566 235677 446688 457899;c1 1 0;");
+        // 1 and 101 or 1 and 111 lead to 0 1
+        planksAre(slope, 12, 1, 2, 1, 101);
+        slope = cityOf("g6 5 023355 123456 235677 456688 556789;c1 1 0;");
+        // 210 and 330 or 411 and 330 lead to 3 0
+        planksAre(slope, 43, 30, 2, 210, 330);
+        slope = cityOf("g6 5 012345 123456 234567 345678 456789;c1 1 0;");
+        // by bits, not by pairs: 5 2 is ahead of 4 3
+        planksAre(slope, 54, 53, 2, 521, 430);
+        // west of a cell is told as east of the one beside it
+        SlopeCoins row = cityOf("g6 1 012345;c1 1 0;");
+        planksAre(row, 50, 50, 1, 400, -5);
+        planksAre(row, 50, 20, 1, 100, -5);
+        planksAre(row, 50, 0, 0, -5, -5);
         SlopeCoins corner = cityOf("g3 3 999 989 979;c1 1 1;");
         planksAre(corner, 11, 11, 1, 111, -5);
     }
@@ -674,6 +725,9 @@ public final class Promises {
         SlopeCoins row = cityOf("g4 1 3323;c1 5 0;");
         due("paved(0, 0, 0, 0), of two alike the first", row.paved(0, 0, 0, 0), 0);
         due("paved(0, 0, 0, 1)", row.paved(0, 0, 0, 1), 1);
+        SlopeCoins low = cityOf("g2 1 01;c1 5 0;");
+        due("paved(0, 1, 0, 0), from 1 to 0", low.paved(0, 1, 0, 0), 10);
+        due("paved(0, 1, 0, 1), from 1 to 0", low.paved(0, 1, 0, 1), 1);
         SlopeCoins flat = cityOf("g2 2 00 00;c1 5 0;");
         due("paved(0, 0, 0, 0), none can be", flat.paved(0, 0, 0, 0), NONE);
         due("paved(0, 0, 0, 1), none can be", flat.paved(0, 0, 0, 1), NONE);
@@ -765,6 +819,9 @@ public final class Promises {
         due("rolls(), one kind", cityOf("g1 1 0;c1 1 0;").rolls(), 0);
         due("rolls(), two alike", cityOf("g1 1 0;c1 1 0;c1 1 0;").rolls(), NONE);
         due("rolls(), two", cityOf("g3 1 000;o1 0 4;c4 1 0;c5 1 0;").rolls(), 2);
+        due("rolls(), the first cell", cityOf("g3 1 000;o0 0 4;c4 1 0;c5 1 0;").rolls(), 1);
+        due("rolls(), the first three",
+            cityOf("g4 1 0000;o0 0 1;o1 0 2;o2 0 3;c1 1 0;c2 1 0;c3 1 0;c4 1 0;").rolls(), 7);
         due("rolls(), of as few the least bits",
             cityOf("g3 1 000;o1 0 4;o2 0 4;c4 1 0;c5 1 0;").rolls(), 2);
         due("rolls(), three kinds by two cells",
@@ -776,6 +833,8 @@ public final class Promises {
         // 0 or 2 tell one step of sizes, 1 or 3 the other
         due("rolls(), the least bits of two",
             cityOf("g4 1 0000;o0 0 1;o1 0 2;o2 0 1;o3 0 2;c1 1 0;c2 1 0;c3 1 0;").rolls(), 3);
+        due("rolls(), the least bits: {2, 4} ahead of {0, 5}",
+            cityOf("g3 2 301033;o2 0 3;o2 1 1;o1 1 1;c1 1 0;c3 1 1;c2 1 0;c4 1 0;").rolls(), 20);
         due("rolls(), one that tells nothing is left out",
             cityOf("g4 1 0000;o0 0 3;o1 0 2;o2 0 1;o3 0 1;c1 1 0;c2 1 0;c3 1 0;").rolls(), 6);
     }
@@ -838,6 +897,19 @@ public final class Promises {
         due("moved(0), 0 one less, 1 one more", first.moved(0), 2);
         due("moved(1), one less ahead", first.moved(1), 0);
         due("cell(0, 0, 0), nothing is changed", first.cell(0, 0, 0), 5);
+        SlopeCoins kinds = cityOf("g3 2 999 191;c1 5 0;c1 5 1;");
+        kinds.saw(1, 11, 1);
+        // forged ones go west from 1 1 but for 0 1 one more, 2 1 one less; four cells are at 9
+        due("moved(0), a forged one", kinds.moved(0), 6);
+        due("moved(1), a forged one", kinds.moved(1), 0);
+        kinds.forget();
+        kinds.saw(0, 11, 1);
+        // plain ones go east from 1 1 but for 0 1 one less, 2 1 one more
+        due("moved(0), a plain one", kinds.moved(0), 2);
+        due("moved(1), a plain one", kinds.moved(1), 10);
+        SlopeCoins forged = cityOf("g3 1 091;c1 5 1;");
+        forged.saw(0, 10, 20);
+        due("moved(0), one more is not enough", forged.moved(0), 0);
         due("moved(2)", coins.moved(2), BAD);
         for (int bad : WRONG_NUMBERS) {
             due("moved(" + bad + ")", coins.moved(bad), BAD);
@@ -927,6 +999,33 @@ public final class Promises {
         due("back(1), again", coins.back(1), 1);
         due("now(5)", coins.now(5), 1);
         due("count(5)", coins.count(5), 4);
+        backToDeeds();
+    }
+
+    private static void backToDeeds() {
+        SlopeCoins coins = cityOf("g2 1 55;o1 0 2;k0 0 1;c1 5 0;c3 7 0;");
+        coins.lets(0, 1, 0);
+        coins.lets(1, 0, 0);
+        coins.lets(1, 0, 0);
+        coins.cobble(1, 0, 1);
+        coins.sweep(0, 0);
+        coins.keep(0);
+        for (int other = 0; other < 10; other++) {
+            coins.cobble(0, 0, other % 2);
+        }
+        due("back(0)", coins.back(0), 0);
+        due("undo() of sweep", coins.undo(), 4);
+        due("cell(0, 0, 2)", coins.cell(0, 0, 2), 2);
+        due("cell(0, 0, 3)", coins.cell(0, 0, 3), 14);
+        due("undo() of cobble", coins.undo(), 3);
+        due("cell(1, 0, 0)", coins.cell(1, 0, 0), 5);
+        due("cell(0, 0, 0)", coins.cell(0, 0, 0), 5);
+        coins.undo();
+        due("cell(0, 0, 3)", coins.cell(0, 0, 3), 7);
+        coins.undo();
+        due("cell(0, 0, 3)", coins.cell(0, 0, 3), 0);
+        due("undo() of lets, in", coins.undo(), 0);
+        due("cell(1, 0, 5)", coins.cell(1, 0, 5), 0);
     }
 
     private static void count() {

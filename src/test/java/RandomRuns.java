@@ -7,7 +7,7 @@ import java.util.TreeSet;
 
 /** Runs of random calls, each answer compared with a slow model that tries everything by brute force. */
 public final class RandomRuns {
-    private static final int RUNS = 1500, CALLS = 512;
+    private static final int RUNS = 2000, SLOPES = 150, CALLS = 512;
 
     // deeds stand here often, so that there is something to ask about; what empties all stands once
     private static final String[] OFTEN = {"lets", "lets", "lets", "sets", "sets", "cobble", "undo", "saw"};
@@ -34,6 +34,9 @@ public final class RandomRuns {
         for (int run = 0; run < RUNS && wrong < 10; run++) {
             new RandomRuns(run).go();
         }
+        for (int run = RUNS; run < RUNS + SLOPES && wrong < 10; run++) {
+            new RandomRuns(run).askPlanks();
+        }
         System.out.println(RUNS + " random runs, calls that were not BAD: " + tried);
         for (String[] names : new String[][] {ALL, SELDOM}) {
             for (String name : names) {
@@ -58,6 +61,30 @@ public final class RandomRuns {
                 int dice = random.nextInt(100);
                 String[] names = dice < 30 ? OFTEN : dice < 98 ? ALL : SELDOM;
                 oneCall(names[random.nextInt(names.length)]);
+            }
+        }
+    }
+
+    /** Long slopes, where several sets of planks lead to the same door. */
+    private void askPlanks() {
+        StringBuilder text = new StringBuilder("g6 5 ");
+        boolean north = random.nextBoolean();
+        boolean west = random.nextBoolean();
+        for (int at = 0; at < 30; at++) {
+            int slope = (west ? at % 6 : 5 - at % 6) + (north ? at / 6 : 4 - at / 6);
+            text.append(Math.max(0, Math.min(9, slope + random.nextInt(3) - 1)));
+        }
+        text.append(";c1 1 0;c1 1 1;");
+        for (char sign : text.toString().toCharArray()) {
+            check("type " + (int) sign, coins.type(sign), model.type(sign));
+        }
+        check("city", coins.city(), model.city());
+        for (int times = 0; times < 12; times++) {
+            int k = random.nextInt(2);
+            int from = 10 * random.nextInt(6) + random.nextInt(5);
+            int to = model.endBehindPlanks(model.kinds.get(k), from, random);
+            for (int what = 0; what <= 2; what++) {
+                check("planks " + k + " " + from + " " + to + " " + what, coins.planks(k, from, to, what), model.planks(k, from, to, what));
             }
         }
     }
@@ -456,6 +483,24 @@ public final class RandomRuns {
 
         int endPair(int k, int from, int otherwise) {
             return isKind(k) && isPair(from) ? endCode(kinds.get(k), from / 10, from % 10) % 100 : otherwise;
+        }
+
+        /** Where it ends if two sides that it crosses are shut: a door that planks lead to. */
+        int endBehindPlanks(int[] kind, int from, Random random) {
+            TreeSet<Integer> before = new TreeSet<>(now.planks);
+            for (int times = 0; times < 2; times++) {
+                List<Integer> path = path(kind, from / 10, from % 10);
+                if (path.size() > 2) {
+                    int step = random.nextInt(path.size() - 2);
+                    int pair = path.get(step);
+                    int next = path.get(step + 1);
+                    int way = next == pair - 1 ? 0 : next == pair + 10 ? 1 : next == pair + 1 ? 2 : 3;
+                    now.planks.add(side(pair / 10, pair % 10, way));
+                }
+            }
+            int end = endCode(kind, from / 10, from % 10) % 100;
+            now.planks = before;
+            return end;
         }
 
         int bit(int pair) {
