@@ -834,18 +834,13 @@ public final class SlopeCoins {
                 return;
             }
             place++;
-            if (token == LETTERS || token == NUMBER) {
-                skipAlike();
-            }
-            weigh(place - start);
-        }
-
-        private void skipAlike() {
-            for (; place < length; place++) {
+            boolean goesOn = token == LETTERS || token == NUMBER;
+            for (; goesOn && place < length; place++) {
                 if (signAt(place) != token) {
-                    return;
+                    break;
                 }
             }
+            weigh(place - start);
         }
 
         private void skipBlanks() {

@@ -171,7 +171,7 @@ public final class DeedBoundaries {
         // the last two cells are apart from the others by kerbs, and the later deeds are there alone
         String city = "g2 2 0199;k0 0 2;k1 0 2;k0 1 1;c1 1 0;c1 2 1;";
         String nine = "cobble 0 1 0, cobble 1 1 0, lets 0 0 1, sweep 0 1, lets 0 1 1, cobble 0 1 0, lets 1 0 1, sweep 1 1, cobble 0 1 1";
-        String asThen = ", cell 0 1 0: 9, cell 1 1 0: 9, cell 0 1 2: 0, cell 1 1 2: 0";
+        String asThen = ", cell 0 1 0: 9, cell 1 1 0: 9, cell 0 1 2: 0, cell 1 1 2: 0, cell 0 1 3: 0, cell 1 1 3: 0";
         for (int at = 0; at < oldest.length; at++) {
             Scene known = Scene.of(city).does(ahead[at]).does(oldest[at] + ", " + nine).due("count 5: 10, " + after[at]);
             Scene lost = Scene.of(city).does(ahead[at]).does(oldest[at] + ", " + nine + ", cobble 1 1 1").due("count 5: 10, " + after[at]);
@@ -183,6 +183,11 @@ public final class DeedBoundaries {
             lost.due("undo: STATE, " + after[at] + asThen);
         }
         Scene.of("g1 1 0;").does("cobble 0 0 1, ".repeat(9)).due("count 5: 9, cobble 0 0 0: 8, count 5: 10, cobble 0 0 1: 9, count 5: 10");
+        // each with its own worth, when others were lost ahead of them
+        Scene worths = Scene.of("g2 1 00;o1 0 1;c1 3 0;c1 50 0;c2 99 0;").does("lets 2 0 0, lets 1 0 0, lets 0 0 0, lets 2 1 0, lets 1 1 0, lets 0 1 0, ".repeat(3));
+        worths.due("cell 0 0 3: 456, cell 1 0 5: 159, cell 1 0 3: 297, count 5: 10, undo: 9, cell 1 0 5: 156, undo: 8, cell 1 0 5: 106, undo: 7, cell 1 0 3: 198");
+        worths.due("undo: 6, cell 0 0 3: 453, undo: 5, cell 0 0 3: 403, undo: 4, cell 0 0 3: 304, undo: 3, cell 1 0 5: 103, undo: 2, cell 1 0 5: 53");
+        worths.due("undo: 1, cell 1 0 3: 99, undo: 0, cell 0 0 3: 301, undo: STATE, cell 0 0 3: 301, cell 1 0 5: 53, now 2: 400, now 4: 53");
         Scene again = Scene.of("g1 1 0;").does("cobble 0 0 1, ".repeat(9) + "cobble 0 0 0, cobble 0 0 0, cobble 0 0 0");
         again.due("undo: 9, undo: 8, undo: 7, cell 0 0 0: 9, cobble 0 0 0: 8, count 5: 8").does("undo, ".repeat(7));
         again.due("undo: 0, undo: STATE, cell 0 0 0: 2");

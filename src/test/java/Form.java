@@ -7,7 +7,9 @@ import java.lang.reflect.Modifier;
 import java.nio.file.Files;
 import java.nio.file.Path;
 import java.util.ArrayList;
+import java.util.Comparator;
 import java.util.List;
+import java.util.Random;
 import java.util.Set;
 import java.util.TreeSet;
 import java.util.regex.Matcher;
@@ -38,6 +40,7 @@ public final class Form {
         }
         source(Files.readString(Path.of("src/main/java/SlopeCoins.java")));
         room();
+        neverThrows();
         System.out.println(wrong == 0 ? "the form is as due" : wrong + " rules are broken");
         if (wrong != 0) {
             System.exit(1);
@@ -158,6 +161,39 @@ public final class Form {
         long after = room.getThreadAllocatedBytes(id);
         need(made - before < 40000, "a new object is small: " + (made - before) + " bytes");
         need(after - made < 20000, "calls make no objects: " + (after - made) + " bytes");
+    }
+
+    /** Rule 7: whatever the numbers and the state, a call answers. */
+    private static void neverThrows() {
+        int[] numbers = {Integer.MIN_VALUE, Integer.MIN_VALUE + 1, -1000000, -11, -10, -9, -2, -1, 0, 1, 2, 3, 4, 5, 6, 7, 9, 10, 11, 21,
+            30, 44, 54, 55, 60, 100, 154, 199, 200, 201, 255, 256, 65536, 429496729, 429496730, Integer.MAX_VALUE - 1, Integer.MAX_VALUE};
+        int[] bytes = "g6 5 012345 123456 234567 345678 456789;k0 0 1;o1 1 3;c1 1 0;c2 2 1;c5 9 0;".chars().toArray();
+        List<Method> calls = new ArrayList<>();
+        for (Method method : SlopeCoins.class.getDeclaredMethods()) {
+            if (Modifier.isPublic(method.getModifiers())) {
+                calls.add(method);
+            }
+        }
+        calls.sort(Comparator.comparing(Method::getName));
+        Random random = new Random(29);
+        for (int object = 0; object < 400; object++) {
+            SlopeCoins coins = new SlopeCoins();
+            if (object % 4 > 0) {
+                allCalls(coins, bytes);
+            }
+            for (int times = 0; times < 300; times++) {
+                Method method = calls.get(random.nextInt(calls.size()));
+                Object[] given = new Object[method.getParameterCount()];
+                for (int at = 0; at < given.length; at++) {
+                    given[at] = random.nextInt(3) == 0 ? random.nextInt(4) : numbers[random.nextInt(numbers.length)];
+                }
+                try {
+                    method.invoke(coins, given);
+                } catch (ReflectiveOperationException thrown) {
+                    need(false, method + " of " + List.of(given) + " answers, but threw " + thrown.getCause());
+                }
+            }
+        }
     }
 
     private static void allCalls(SlopeCoins coins, int[] bytes) {

@@ -23,6 +23,7 @@ public final class RollBoundaries {
         planksAsked();
         planksFewest();
         planksFirst();
+        planksSecond();
         planksWhenFull();
         seen();
         forget();
@@ -220,6 +221,11 @@ public final class RollBoundaries {
         planksAre(Scene.of(PEAK).does("sets 1 1 0, sets 2 1 3, sets 1 1 2, sets 1 1 3"), "0 11 11", "0", "-5", "-5");
         // none is taken away for it
         planksAre(Scene.of(PEAK).does("sets 1 1 0"), "0 11 10", "NONE", "NONE", "NONE");
+        planksAre(Scene.of("g2 1 10;c1 1 0;").does("sets 0 0 1"), "0 0 10", "NONE", "NONE", "NONE");
+        planksAre(Scene.of("g3 1 010;c1 1 0;").does("sets 0 0 1"), "0 10 0", "NONE", "NONE", "NONE");
+        planksAre(Scene.of("g3 1 010;k0 0 1;c1 1 0;"), "0 10 0", "NONE", "NONE", "NONE");
+        // none is told where it comes there as it is, though it also would by one more
+        planksAre(Scene.of(SLOPE + "c1 1 0;"), "0 54 0", "0", "-5", "-5");
         // it falls in there: that is an end, too, and no plank holds it from a grating where it is let go
         planksAre(Scene.of("g3 1 101;o2 0 1;c1 1 0;"), "0 0 10", "0", "-5", "-5");
         planksAre(Scene.of("g2 1 10;o0 0 1;c1 1 0;"), "0 0 10", "NONE", "NONE", "NONE");
@@ -241,6 +247,20 @@ public final class RollBoundaries {
         planksAre(Scene.of("g6 1 012345;c1 1 0;"), "0 50 50", "1", "400", "-5");
         planksAre(Scene.of("g1 5 01234;c1 1 0;"), "0 4 4", "1", "31", "-5");
         planksAre(Scene.of("g1 5 01234;c1 1 0;"), "0 4 1", "1", "1", "-5");
+    }
+
+    private static void planksSecond() {
+        Scene.sentence("the first, then the second one, which is behind it");
+        String slope = "g6 5 987554 876533 755332 644310 533100;c1 1 0;";
+        // 0 and 121 or 100 and 121 lead to 1 2, 100 and 111 or 200 and 211 to 4 1
+        planksAre(Scene.of(slope), "0 0 12", "2", "0", "121");
+        planksAre(Scene.of(slope), "0 0 41", "2", "100", "111");
+        // 1 and 101 or 1 and 111 lead to 0 1
+        planksAre(Scene.of("g6 5 013446 124566 235677 446688 457899;c1 1 0;"), "0 12 1", "2", "1", "101");
+        // 0 and 101 or 0 and 10 lead to 2 1: as bits rise, not as PAIRS
+        planksAre(Scene.of("g3 2 598 476;c1 1 0;"), "0 10 21", "2", "0", "101");
+        // 210 and 330 or 411 and 330 lead to 3 0
+        planksAre(Scene.of("g6 5 023355 123456 235677 456688 556789;c1 1 0;"), "0 43 30", "2", "210", "330");
     }
 
     /** The document tells 8 of the PLANKS that are set, and names no such bound for SET. */
@@ -412,7 +432,7 @@ public final class RollBoundaries {
         Scene.of("g4 1 0000;o0 0 2;o1 0 2;o2 0 2;o3 0 1;c1 1 0;c2 1 0;c3 1 0;").due("rolls: 9");
         // least as bits: 2 and 4 are ahead of 0 and 5
         Scene.of("g3 2 301033;o2 0 3;o2 1 1;o1 1 1;c1 1 0;c3 1 1;c2 1 0;c4 1 0;").due("rolls: 20");
-        // as the heights are now
-        Scene.of("g2 1 01;o0 0 1;c1 1 0;c2 1 0;").due("rolls: 1, cobble 0 0 1: 1, rolls: 1");
+        // as all is now, whatever was asked ahead of it
+        Scene.of("g3 1 010;c1 1 0;c1 1 1;").due("rolls: 2, sets 0 0 1: 1, rolls: NONE, rain 1: 2, rolls: NONE, undo: 0, rain 0: 20, rolls: 2, cobble 0 0 1: 1, rolls: NONE");
     }
 }

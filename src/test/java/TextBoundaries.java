@@ -388,6 +388,9 @@ public final class TextBoundaries {
         Scene.rich().does("clear").due("city: 0, count 0: 0, count 1: 0, count 2: 0, count 3: 0, count 4: 0, count 5: 0"
             + ", count 6: 0, now 0: 0, now 1: 0, now 2: 0, now 3: 0, now 4: 0, now 5: 0, now 6: 1, cell 0 0 0: BAD"
             + ", kind 0 0: BAD, undo: STATE, back 0: STATE, back 1: STATE, moved 0: 0, moved 1: NONE, rolls: 0");
+        // also when larger ones were read ahead of it
+        Scene.of("g3 2 123456;c1 1 0;").types("g2 3 123456;o0 0 1;").due("city: 2, city: 0, count 0: 0, count 1: 0, count 2: 0, count 3: 0, cell 0 0 0: BAD"
+            + ", rain 0: NONE, rain 1: 0, moved 0: 0, city: 0, count 0: 0, count 1: 0, count 2: 0, cell 0 0 0: BAD");
         // blanks alone hold no token that could be wrong, and end no item too early
         reads(" ", 0);
         reads(repeated(" ", 200), 0);
